@@ -68,7 +68,10 @@ public final class BestTest {
     AspenLine y = CHECK.told("plain;plain;root 0 1 9;");
     CHECK.due("a shorter root beside one", y.join(1, 5, 2, 0), 1);
     CHECK.due("a shorter root beside one", y.join(1, 5, 2, 1), 2);
-    // all six but two hear already: the amount told is 4
+    AspenLine w = CHECK.told("plain;plain;plain;plain;root 2 3 1;");
+    CHECK.due("two that both are not the first", w.join(1, 4, 2, 0), 12);
+    CHECK.due("two that both are not the first", w.join(1, 4, 2, 1), 3);
+    // What is told is 4 then, and no NONE.
     AspenLine z = CHECK.told("plain;plain;plain;plain;plain;plain;root 0 1 1;root 1 2 1;");
     CHECK.due("four hear then", z.join(0, 5, 9, 1), NONE);
     CHECK.due("four hear then", z.join(0, 5, 4, 1), 4);

@@ -115,6 +115,23 @@ public final class CallTest {
     CHECK.due("one is left", x.ask(1), NONE);
     x.see(2, 4);
     CHECK.due("none is left", x.ask(0), NONE);
+    AspenLine six = CHECK.told("old;old;old;old;old;old;");
+    CHECK.due("six alike", six.ask(0), 0);
+    CHECK.due("301 of 360 are left", six.ask(1), 301);
+    six.see(0, 0);
+    CHECK.due("301 at one of the others", six.ask(1), 242);
+    six.see(1, 1);
+    CHECK.due("two breaths are not told apart", six.ask(0), NONE);
+    AspenLine one = CHECK.told("plain;");
+    one.see(0, 0);
+    CHECK.due("no call has been", one.ask(0), NONE);
+    AspenLine silver = CHECK.told("silver;");
+    CHECK.due("each breath is told apart", silver.ask(0), 0);
+    CHECK.due("each breath is told apart", silver.ask(1), 1);
+    // At an old tree alone: 0 by all 60 breaths at the other one and by one of its own.
+    AspenLine old = CHECK.told("old;old;");
+    CHECK.due("of two alike the first", old.ask(0), 0);
+    CHECK.due("61 of 120 are left", old.ask(1), 61);
     CHECK.due("ask(2)", x.ask(2), BAD);
     CHECK.due("ask(-1)", x.ask(-1), BAD);
     CHECK.due("without trees", new AspenLine().ask(1), NONE);

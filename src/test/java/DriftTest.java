@@ -22,9 +22,33 @@ public final class DriftTest {
     CHECK.due("drift(0, 60, 0)", x.drift(0, 60, 0) > 0);
     x.drop(0);
     CHECK.due("without talks", x.drift(0, 60, 0), 0);
+    years();
     AspenLine none = new AspenLine();
     CHECK.due("without roots", none.drift(0, 1, 0), AspenLine.STATE);
     CHECK.due("without roots, bad", none.drift(0, 61, 0), BAD);
     CHECK.close("DriftTest");
+  }
+
+  /** Breaths of 15, 16, 18, 19 tell winds apart; what was worked out is how many hear in each year. */
+  private static void years() {
+    AspenLine x = CHECK.told("plain;plain;plain;root 0 1 1;root 1 0 3;"
+        + "talk 1 0 60;talk 1 2 18;talk 1 2 19;talk 2 2 15;talk 2 0 16;talk 2 1 19;wind 3;");
+    years(x, 0, 9, 4, 7, 4, 9, 9, 7, 7);
+    years(x, -3, 9, 6, 9, 9, 2, 7, 9, 6);
+    years(x, Integer.MAX_VALUE, 9, 9, 9, 9, 2, 6, 9, 9);
+    years(x, 1, 9, 9, 9, 9, 9, 7, 9, 6);
+    x.cut(0, true);
+    CHECK.due("sixty years from a cut root", x.drift(0, 60, 0), 447);
+    CHECK.due("sixty years from a cut root", x.drift(-3, 60, 0), 432);
+    CHECK.due("the sixtieth", x.drift(1, 60, 1), 5);
+  }
+
+  private static void years(AspenLine x, int seed, int... heard) {
+    int sum = 0;
+    for (int n = 1; n <= heard.length; n++) {
+      sum += heard[n - 1];
+      CHECK.due("drift(" + seed + ", " + n + ", 0)", x.drift(seed, n, 0), sum);
+      CHECK.due("drift(" + seed + ", " + n + ", 1)", x.drift(seed, n, 1), heard[n - 1]);
+    }
   }
 }

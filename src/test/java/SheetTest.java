@@ -114,6 +114,12 @@ public final class SheetTest {
     CHECK.due("as told", x.read(2, 2, 0, 1), 1);
     x.sheet(2, 2, 3);
     CHECK.due("a new row is 0", x.read(2, 2, 0, 1), -20);
+    lay(x, 1, 5, 0, 7);
+    x.sheet(1, 1, 3);
+    x.lay(1, 2, 8);
+    CHECK.due("nothing is left of the row before", x.read(1, 1, 0, 1), 1);
+    CHECK.due("its hour", x.talk(3, 0), 0);
+    CHECK.due("its breath", x.talk(3, 2), 8);
   }
 
   private static void read() {

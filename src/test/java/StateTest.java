@@ -10,6 +10,7 @@ public final class StateTest {
     graftAndStretch();
     growAndCut();
     windAndTalks();
+    all();
     CHECK.close("StateTest");
   }
 
@@ -196,5 +197,34 @@ public final class StateTest {
     CHECK.due("talk(1, 2)", x.talk(1, 2), 4);
     CHECK.due("drop(0)", x.drop(0), 2);
     CHECK.due("rule(3)", x.rule(3), 0);
+  }
+
+  /** As many trees, roots and talks as there may be. */
+  private static void all() {
+    AspenLine x = CHECK.told("plain;plain;plain;plain;plain;plain;root 0 1 1;root 1 2 2;root 2 3 3;root 3 4 4;root 4 5 5;");
+    x.grow(0, 5, 9);
+    x.grow(0, 5, 9);
+    x.grow(0, 5, 9);
+    x.grow(0, 5, 9);
+    for (int k = 0; k < 6; k++) {
+      CHECK.due("book to " + (k + 1), x.book(3, k, 1), k + 1);
+    }
+    CHECK.due("reach", x.tree(5, 2), 63);
+    CHECK.due("roots of 5", x.tree(5, 1), 5);
+    CHECK.due("talks at 5", x.tree(5, 3), 32);
+    CHECK.due("none crossed", x.rule(5), 0);
+    CHECK.due("lengths", x.count(4), 51);
+    CHECK.due("breaths", x.count(5), 6);
+    CHECK.due("far(0, 5)", x.far(0, 5), 9);
+    CHECK.due("far(1, 5)", x.far(1, 5), 10);
+    x.shift(5, 2, 60);
+    x.shift(4, 2, 60);
+    CHECK.due("two with all", x.rule(5), 9);
+    CHECK.due("talks at 0", x.tree(0, 3), 49);
+    CHECK.due("roots are worth nothing", x.dear(0), AspenLine.NONE);
+    x.drop(5);
+    CHECK.due("one with all", x.rule(5), 4);
+    CHECK.due("talks at 0", x.tree(0, 3), 17);
+    CHECK.due("breaths", x.count(5), 64);
   }
 }

@@ -128,6 +128,9 @@ public final class TapeTest {
     fault("birch;", 0, 2);
     fault("plainsilver;", 0, 2);
     fault("plai;", 0, 2);
+    fault("blain;", 0, 2);
+    fault("ploin;", 0, 2);
+    fault("talc 0 0 1;", 0, 2);
     fault("plains;", 0, 2);
     fault("p lain;", 0, 2);
     fault("pla\nin;", 0, 2);
