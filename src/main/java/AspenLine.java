@@ -227,7 +227,7 @@ public final class AspenLine {
         if (!live.hasTrees(some) || !isEither(what)) {
             return BAD;
         }
-        best.below(Integer.MAX_VALUE);
+        best.below(Best.ANY_AMOUNT);
         for (int t = 0; t < live.treeCount; t++) {
             int breath = live.leastBreath(t, some, some);
             if (breath != NONE) {
@@ -244,7 +244,7 @@ public final class AspenLine {
             return BAD;
         }
         trial.become(live);
-        best.below(Integer.MAX_VALUE);
+        best.below(Best.ANY_AMOUNT);
         for (int more = 0; more < 1 << live.rootCount; more++) {
             int roots = Integer.bitCount(more);
             if ((more & live.cutBits) == 0 && roots < best.amount) {
@@ -297,7 +297,7 @@ public final class AspenLine {
             return BAD;
         }
         trial.become(live);
-        best.below(Integer.MAX_VALUE);
+        best.below(Best.ANY_AMOUNT);
         for (int hour = 0; hour <= HIGHEST_HOUR; hour++) {
             trial.hours[k] = hour;
             best.offer(hour, trial.crossedPairs());
@@ -310,7 +310,7 @@ public final class AspenLine {
             return BAD;
         }
         trial.become(live);
-        best.below(Integer.MAX_VALUE);
+        best.below(Best.ANY_AMOUNT);
         for (int kind = 0; kind <= HIGHEST_KIND; kind++) {
             trial.kinds[t] = kind;
             best.offer(kind, trial.crossedPairs());
@@ -850,6 +850,9 @@ public final class AspenLine {
 
     /** The first of the choices offered that has the least amount. */
     private static final class Best {
+        /** Above every amount that is ever offered. */
+        static final int ANY_AMOUNT = 1000;
+
         int choice;
         int amount;
 
